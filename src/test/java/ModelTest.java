@@ -121,7 +121,14 @@ public final class ModelTest {
         switch (what) {
             case 0 -> same("match(" + lamps + ", " + odd + ")", x.match(lamps, odd), m.match(lamps, odd));
             case 1 -> same("nearest(" + lamps + ", " + odd + ")", x.nearest(lamps, odd), m.nearest(lamps, odd));
-            case 2 -> same("best(" + lamps + ", " + odd + ")", x.best(lamps, odd), m.best(lamps, odd));
+            case 2 -> {
+                int count = m.best(lamps, odd);
+                same("best(" + lamps + ", " + odd + ")", x.best(lamps, odd), count);
+                for (int i = Math.min(count, 3); i >= 0; i--) {
+                    same("parts(0) of best", x.parts(0), m.parts(0));
+                    same("pick(" + i + ")", x.pick(i), m.pick(i));
+                }
+            }
             case 3 -> {
                 int day = near(m.about(3));
                 int night = near(m.about(3));

@@ -165,6 +165,11 @@ public final class PromiseTest {
         fault("bands 1;eye a of 1;bands", 2, 19);
         fault("bands 1;lamp a of 1;bands", 2, 20);
         fault("ground a of 1 2 3 4;bands", 2, 20);
+        fault("bands 1;" + dye + "bands", 2, 34);
+        fault(dye.replace("1;", "1 1 1 1;") + "lamp a of 1 1 1 1;bands", 2, 50);
+        fault("eye a of 1 1 1 1;ground b of 1 1 1 1;bands", 2, 37);
+        fault("bands 1;" + dye + ground + "good a on g of 1;dye", 2, 65);
+        fault("bands 1;" + dye + ground + "good a on g of 1;most", 2, 65);
         fault("bands 2;eye a of 1;", 2, 18);
         fault("bands 1;eye a of 1 2;", 2, 19);
         fault("bands 1;eye a of 1 99;", 2, 19);
@@ -212,6 +217,31 @@ public final class PromiseTest {
             due(37, "about(" + what + ") of a full bench", x.about(what), want[what]);
         }
         due(26, "old of a full bench", x.old(), 16);
+        due(23, "24 parts at once", x.drop(7, 24), 24);
+        fault(";".repeat(1700), 2, 0);
+        fault("over;" + ";".repeat(1695), 2, 5);
+        fault("over;" + " ".repeat(1690) + "alike", 2, 1700);
+    }
+
+    private static void fullRecipes() {
+        StringBuilder s = new StringBuilder("bands 1;");
+        for (char c = 'a'; c < 'i'; c++) {
+            s.append("dye ").append(c).append(" price 1 fast 1 of 9;");
+        }
+        s.append("ground g of 3;lamp l of 0;eye e of 9;");
+        for (char c = 'a'; c < 'i'; c++) {
+            s.append("good ").append(c).append(" on g of 1 1 1 1 1 1 1 1;");
+        }
+        DyeLamps x = on(s.toString());
+        due(26, "as many old ones as can be", x.old(), 72);
+        due(27, "the last one's good", x.oldOne(71, 0), 7);
+        due(27, "the last one's dye", x.oldOne(71, 1), 7);
+        due(27, "the first without a dye", x.oldOne(8, 1), 0);
+        due(31, "all agree", x.agree(0), 72);
+        due(32, "the last that agrees", x.agrees(71, 0), 71);
+        due(33, "all are seen as one", x.next(2, 0), 72);
+        due(33, "lamp", x.next(0, 0), 0);
+        due(33, "eye", x.next(1, 0), 0);
     }
 
     private static void looking() {
@@ -416,6 +446,21 @@ public final class PromiseTest {
         x.ask(0, 0, 6, 8);
         due(12, "3003 mixes", x.mixes(), 3003);
         due(15, "not spent for best", x.best(1, false) > 0, true);
+        DyeLamps six = on(many(6, 24));
+        six.ask(0, 0, 20, 4);
+        due(12, "98446 mixes", six.mixes(), 98446);
+        due(14, "just not spent", six.nearest(1, false), 0);
+        six.ask(0, 0, 17, 6);
+        due(12, "100947 mixes", six.mixes(), 100947);
+        due(13, "just spent", six.match(1, false), -2);
+        due(14, "just spent", six.nearest(1, false), -2);
+        due(17, "just spent", six.trick(0, 0, false), -2);
+        six.ask(0, 0, 9, 6);
+        due(12, "5005 mixes", six.mixes(), 5005);
+        due(15, "just spent for best", six.best(1, false), -2);
+        six.ask(0, 0, 9, 5);
+        due(12, "4921 mixes", six.mixes(), 4921);
+        due(15, "just not spent for best", six.best(1, false) > 0, true);
     }
 
     private static void tricking() {
@@ -607,6 +652,40 @@ public final class PromiseTest {
         due(37, "looks", x.about(6), 3);
     }
 
+    private static void agreeingAtTheEdge() {
+        // The good is seen as 99000 * 99 * 9 / 1, without its dye as nothing: no round number of millions.
+        DyeLamps x = on("bands 1;most 1;dye a price 1 fast 1 of 99;ground g of 0;lamp l of 99;eye e of 9;good x on g of 1;");
+        due(7, "seen", x.seen(0, 0, 0), 88209000);
+        x.look(0, 0, 88209 - 9999, 9999);
+        due(31, "just so far", x.agree(0), 1);
+        x.later(1);
+        x.look(0, 0, 88209 - 9999, 9998);
+        due(31, "a thousand too far", x.agree(1), 0);
+        DyeLamps odd = on("bands 1;most 7;dye a price 1 fast 1 of 10;ground g of 0;lamp l of 1;eye e of 1;good x on g of 4;");
+        due(7, "seen", odd.seen(0, 0, 0), 5714);
+        odd.look(0, 0, 5, 0);
+        due(31, "so much is told to the thousand", odd.agree(0), 0);
+        odd.untell(0);
+        odd.look(0, 0, 4, 1);
+        due(31, "below by less than two thousand", odd.agree(0), 0);
+        odd.untell(1);
+        odd.look(0, 0, 6, 1);
+        due(31, "above by less than one thousand", odd.agree(0), 1);
+        // x 990, y 1000, z 2000, x without its dye 1000.
+        DyeLamps near = on("bands 1;most 1;over;dye a price 0 fast 0 of 99;ground g of 1;ground h of 2;lamp l of 1;"
+                + "eye e of 1;good x on g of 1;good y on g of 0;good z on h of 0;");
+        due(7, "seen x", near.seen(0, 0, 0), 990);
+        due(7, "seen y", near.seen(1, 0, 0), 1000);
+        due(33, "990 and 1000 are not one, 1000 twice is", near.next(2, 0), 2);
+        DyeLamps cut = on("bands 2;most 7;dye a price 1 fast 1 of 11 0;dye b price 1 fast 1 of 0 73;ground g of 0 0;"
+                + "lamp l of 7 1;eye e of 1 1;good x on g of 1 0;good y on g of 0 1;");
+        due(7, "seen x", cut.seen(0, 0, 0), 10997);
+        due(7, "seen y", cut.seen(1, 0, 0), 10428);
+        cut.look(0, 0, 10, 1);
+        due(31, "both agree", cut.agree(0), 2);
+        due(33, "both are cut to one", cut.next(2, 0), 2);
+    }
+
     private static void lookingWrongly() {
         DyeLamps x = on(BENCH);
         due(28, "no such lamp", x.look(2, 0, 1, 1), -1);
@@ -674,6 +753,7 @@ public final class PromiseTest {
         tokenFaults();
         lineFaults();
         countFaults();
+        fullRecipes();
         looking();
         lookingAtLittle();
         asking();
@@ -687,6 +767,7 @@ public final class PromiseTest {
         slipping();
         imaging();
         recalling();
+        agreeingAtTheEdge();
         lookingWrongly();
         choosingNext();
         aboutAll();
