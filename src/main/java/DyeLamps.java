@@ -602,6 +602,8 @@ public final class DyeLamps {
         private final Tokens tokens;
         private Bench bench;
         private int at;
+        private int kind;
+        private long value;
         private int told;
         private int number;
         int fault;
@@ -618,11 +620,11 @@ public final class DyeLamps {
             bench = target;
             bench.clear();
             tokens.scan(tape);
-            at = 0;
+            moveTo(0);
             told = 0;
             fault = 0;
             place = NONE;
-            for (int lines = 0; lines <= MAX_TEXT && fault == 0 && kind() != Tokens.END; lines++) {
+            for (int lines = 0; lines <= MAX_TEXT && fault == 0 && kind != Tokens.END; lines++) {
                 readLine();
             }
             if (fault == 0) {
@@ -633,7 +635,7 @@ public final class DyeLamps {
 
         /** All the readers below answer whether the text can go on. */
         private boolean readLine() {
-            switch (kind()) {
+            switch (kind) {
                 case Tokens.BANDS:
                     return readBands();
                 case Tokens.MOST:
@@ -741,8 +743,8 @@ public final class DyeLamps {
         }
 
         private boolean takeGround(int good) {
-            int ground = bench.grounds.find(value());
-            if (kind() == Tokens.NAME && ground == NONE) {
+            int ground = bench.grounds.find(value);
+            if (kind == Tokens.NAME && ground == NONE) {
                 return refuse(NO_GROUND);
             }
             bench.goodGrounds[good] = ground;
@@ -751,12 +753,12 @@ public final class DyeLamps {
 
         /** Goes past the first word of a line that can be told but once. */
         private boolean openOnce() {
-            int bit = 1 << kind();
+            int bit = 1 << kind;
             if ((told & bit) != 0) {
                 return refuse(MISPLACED);
             }
             told |= bit;
-            at++;
+            moveTo(at + 1);
             return true;
         }
 
@@ -765,12 +767,11 @@ public final class DyeLamps {
             if (shelf.isFull()) {
                 return refuse(MISPLACED);
             }
-            at++;
-            long name = value();
-            if (kind() == Tokens.NAME && shelf.find(name) != NONE) {
+            moveTo(at + 1);
+            if (kind == Tokens.NAME && shelf.find(value) != NONE) {
                 return refuse(NAME_TAKEN);
             }
-            shelf.names[shelf.count] = name;
+            shelf.names[shelf.count] = value;
             return take(Tokens.NAME);
         }
 
@@ -789,34 +790,39 @@ public final class DyeLamps {
         }
 
         private boolean takeNumber(int least, int greatest) {
-            number = (int) value();
-            if (kind() == Tokens.NUMBER && (number < least || number > greatest)) {
-                return refuse(BAD_NUMBER);
-            }
-            return take(Tokens.NUMBER);
-        }
-
-        private boolean take(int kind) {
-            if (kind() != kind) {
+            if (kind != Tokens.NUMBER) {
                 return refuse(MISPLACED);
             }
-            at++;
+            if (value < least || value > greatest) {
+                return refuse(BAD_NUMBER);
+            }
+            number = (int) value;
+            moveTo(at + 1);
             return true;
         }
 
-        private int kind() {
-            return at < tokens.count ? tokens.kinds[at] : Tokens.END;
+        private boolean take(int wanted) {
+            if (kind != wanted) {
+                return refuse(MISPLACED);
+            }
+            moveTo(at + 1);
+            return true;
         }
 
-        private long value() {
-            return at < tokens.count ? tokens.values[at] : 0;
+        /** A row of tokens ends with one that is never gone past: the end, or no token. */
+        private void moveTo(int token) {
+            if (token >= 0 && token < tokens.count) {
+                at = token;
+                kind = tokens.kinds[at];
+                value = tokens.values[at];
+            }
         }
 
         /** The first refusal stays: places only grow while the text is read. */
-        private boolean refuse(int number) {
+        private boolean refuse(int reason) {
             if (fault == 0) {
-                fault = kind() == Tokens.NO_TOKEN ? BAD_TOKEN : number;
-                place = at < tokens.count ? tokens.places[at] : NONE;
+                fault = kind == Tokens.NO_TOKEN ? BAD_TOKEN : reason;
+                place = tokens.places[at];
             }
             return false;
         }

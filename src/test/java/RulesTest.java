@@ -1,3 +1,5 @@
+import java.io.PrintWriter;
+import java.io.StringWriter;
 import java.lang.reflect.Constructor;
 import java.lang.reflect.Field;
 import java.lang.reflect.Method;
@@ -6,10 +8,13 @@ import java.nio.file.Files;
 import java.nio.file.Path;
 import java.util.ArrayList;
 import java.util.List;
+import java.util.Map;
 import java.util.Set;
+import java.util.TreeMap;
 import java.util.TreeSet;
 import java.util.regex.Matcher;
 import java.util.regex.Pattern;
+import java.util.spi.ToolProvider;
 
 /** What of LANGUAGE.md can be seen from the source's words and the class's members. */
 public final class RulesTest {
@@ -100,6 +105,51 @@ public final class RulesTest {
         }
     }
 
+    /** Who calls whom, by the class files' own words. */
+    private static Map<String, Set<String>> calls(List<Class<?>> classes) {
+        Map<String, Set<String>> calls = new TreeMap<>();
+        String path = DyeLamps.class.getProtectionDomain().getCodeSource().getLocation().getPath();
+        for (Class<?> c : classes) {
+            StringWriter out = new StringWriter();
+            PrintWriter to = new PrintWriter(out);
+            ToolProvider.findFirst("javap").orElseThrow().run(to, to, "-c", "-p", "-cp", path, c.getName());
+            String from = "";
+            for (String line : out.toString().split("\n")) {
+                Matcher head = Pattern.compile("^  .*?([\\w$]+)\\(.*\\).*;$").matcher(line);
+                Matcher call = Pattern.compile("// (?:Interface)?Method (?:([\\w/$]+)\\.)?\"?([\\w<>]+)\"?:").matcher(line);
+                if (head.find()) {
+                    from = c.getName() + "." + (head.group(1).equals(c.getName()) ? "<init>" : head.group(1));
+                    calls.put(from, new TreeSet<>());
+                } else if (call.find()) {
+                    String owner = call.group(1) == null ? c.getName() : call.group(1);
+                    calls.get(from).add(owner + "." + call.group(2));
+                }
+            }
+        }
+        return calls;
+    }
+
+    private static int depth(String method, Map<String, Set<String>> calls, int open) {
+        refuseIf(open > 30, 8, method + " calls itself");
+        int deepest = 0;
+        for (String called : open > 30 ? Set.<String>of() : calls.getOrDefault(method, Set.of())) {
+            deepest = Math.max(deepest, depth(called, calls, open + 1));
+        }
+        return deepest + 1;
+    }
+
+    private static void depths(List<Class<?>> classes) {
+        Map<String, Set<String>> calls = calls(classes);
+        int deepest = 0;
+        for (String method : calls.keySet()) {
+            int depth = depth(method, calls, 0);
+            deepest = Math.max(deepest, depth);
+            refuseIf(depth > 8, 11, method + " goes " + depth + " deep");
+        }
+        System.out.println(calls.size() + " methods, calls go " + deepest + " deep");
+        refuseIf(calls.size() < 100 || deepest < 5, 11, "the calls could not be read");
+    }
+
     public static void main(String[] args) throws Exception {
         Path path = Path.of("src/main/java/DyeLamps.java");
         String source = Files.readString(path);
@@ -117,6 +167,7 @@ public final class RulesTest {
         for (Class<?> c : classes) {
             members(c, names);
         }
+        depths(classes);
         System.out.println(classes.size() + " classes, " + wrong + " rules broken");
         if (wrong != 0) {
             System.exit(1);
