@@ -1412,10 +1412,7 @@ public final class DyeLamps {
             width = Integer.bitCount(lamps);
             for (int i = 0; i < count; i++) {
                 measure(lamps, odd);
-                if (!isBeaten()) {
-                    removeBeaten();
-                    addBest();
-                }
+                holdAgainstBest();
                 walk.advance();
             }
             layBest(0);
@@ -1433,31 +1430,41 @@ public final class DyeLamps {
             }
         }
 
-        private boolean isBeaten() {
-            for (int i = 0; i < bests; i++) {
-                if (beats(bestAparts, i * MAX_LAMPS, aparts, 0)) {
-                    return true;
-                }
+        /** One like a best mix is best too, and beats none that stands beside that one. */
+        private void holdAgainstBest() {
+            int rival = findRival();
+            if (rival == NONE) {
+                removeBeaten();
+                addBest();
+            } else if (isNoFarther(aparts, 0, bestAparts, rival * MAX_LAMPS)) {
+                addBest();
             }
-            return false;
         }
 
-        private boolean beats(long[] a, int fromA, long[] b, int fromB) {
-            boolean less = false;
+        /** The first best mix that is no farther by any lamp; NONE if there is none. */
+        private int findRival() {
+            for (int i = 0; i < bests; i++) {
+                if (isNoFarther(bestAparts, i * MAX_LAMPS, aparts, 0)) {
+                    return i;
+                }
+            }
+            return NONE;
+        }
+
+        private boolean isNoFarther(long[] a, int fromA, long[] b, int fromB) {
             for (int i = 0; i < width; i++) {
                 if (a[fromA + i] > b[fromB + i]) {
                     return false;
                 }
-                less = less || a[fromA + i] < b[fromB + i];
             }
-            return less;
+            return true;
         }
 
-        /** Those that stay keep their order. */
+        /** None is like the new one here, so what it is no farther than is beaten; the rest keep their order. */
         private void removeBeaten() {
             int left = 0;
             for (int i = 0; i < bests; i++) {
-                if (!beats(aparts, 0, bestAparts, i * MAX_LAMPS)) {
+                if (!isNoFarther(aparts, 0, bestAparts, i * MAX_LAMPS)) {
                     if (left < i) {
                         bestParts[left] = bestParts[i];
                         System.arraycopy(bestAparts, i * MAX_LAMPS, bestAparts, left * MAX_LAMPS, width);

@@ -44,8 +44,16 @@ public final class ModelTest {
         same("fault(1)", x.fault(1), m.fault(1));
     }
 
+    private int extreme() {
+        int[] all = {Integer.MIN_VALUE, Integer.MAX_VALUE, Integer.MIN_VALUE + 1, 1 << 30, -2, r.nextInt()};
+        return all[r.nextInt(all.length)];
+    }
+
     /** Mostly a number below the count, at times one outside. */
     private int near(int count) {
+        if (r.nextInt(60) == 0) {
+            return extreme();
+        }
         return r.nextInt(8) == 0 || count <= 0 ? r.nextInt(count + 3) - 2 : r.nextInt(count);
     }
 
@@ -55,6 +63,9 @@ public final class ModelTest {
 
     private int lamps() {
         int all = 1 << m.about(3);
+        if (r.nextInt(40) == 0) {
+            return extreme();
+        }
         return r.nextInt(12) == 0 || all == 1 ? r.nextInt(2 * all + 1) - 1 : 1 + r.nextInt(all - 1);
     }
 
@@ -102,7 +113,7 @@ public final class ModelTest {
         int good = near(m.about(5));
         int ground = near(m.about(2));
         int parts = near(m.most() + 1);
-        int kinds = r.nextInt(8) == 0 ? r.nextInt(11) - 1 : 1 + r.nextInt(8);
+        int kinds = r.nextInt(8) == 0 ? near(10) : 1 + r.nextInt(8);
         String call = "ask(" + good + ", " + ground + ", " + parts + ", " + kinds + ")";
         told.append(call).append('\n');
         same(call, bit(x.ask(good, ground, parts, kinds)), bit(m.ask(good, ground, parts, kinds)));
@@ -135,7 +146,7 @@ public final class ModelTest {
                 same("trick(" + day + ", " + night + ", " + odd + ")", x.trick(day, night, odd), m.trick(day, night, odd));
             }
             default -> {
-                int i = r.nextInt(8) - 1;
+                int i = near(6);
                 same("pick(" + i + ")", x.pick(i), m.pick(i));
             }
         }
@@ -152,11 +163,11 @@ public final class ModelTest {
             }
             case 1, 2, 3 -> {
                 int dye = near(m.about(1));
-                int parts = r.nextInt(4) == 0 ? r.nextInt(27) - 1 : 1 + r.nextInt(2);
+                int parts = r.nextInt(4) == 0 ? near(26) : 1 + r.nextInt(2);
                 same("drop(" + dye + ", " + parts + ")", x.drop(dye, parts), m.drop(dye, parts));
             }
             case 4 -> {
-                int days = r.nextInt(8) == 0 ? r.nextInt(1100) - 50 : r.nextInt(4);
+                int days = r.nextInt(8) == 0 ? near(1100) : r.nextInt(4);
                 same("days(" + days + ")", x.days(days), m.days(days));
             }
             case 5 -> {
@@ -164,11 +175,11 @@ public final class ModelTest {
                 same("vat(" + dye + ")", x.vat(dye), m.vat(dye));
             }
             case 6 -> {
-                int box = r.nextInt(5) - 1;
+                int box = near(3);
                 same("image(" + box + ")", x.image(box), m.image(box));
             }
             case 7 -> {
-                int box = r.nextInt(5) - 1;
+                int box = near(3);
                 same("back(" + box + ")", x.back(box), m.back(box));
             }
             default -> {
@@ -184,7 +195,7 @@ public final class ModelTest {
         int good = near(m.about(5));
         long seen = m.seen(good, lamp, eye);
         int much = r.nextInt(8) == 0 ? r.nextInt() : (int) (seen / 1000) + r.nextInt(20) - 10;
-        int some = r.nextInt(8) == 0 ? r.nextInt(10100) - 50 : r.nextInt(r.nextBoolean() ? 30 : 10000);
+        int some = r.nextInt(8) == 0 ? near(10100) : r.nextInt(r.nextBoolean() ? 30 : 10000);
         String call = "look(" + lamp + ", " + eye + ", " + much + ", " + some + ")";
         told.append(call).append('\n');
         same(call, x.look(lamp, eye, much, some), m.look(lamp, eye, much, some));
@@ -199,7 +210,7 @@ public final class ModelTest {
             case 0 -> same("old()", x.old(), m.old());
             case 1 -> {
                 int old = near(m.old());
-                int what = r.nextInt(4) - 1;
+                int what = near(2);
                 same("oldOne(" + old + ", " + what + ")", x.oldOne(old, what), m.oldOne(old, what));
             }
             case 2 -> tellLook();
@@ -209,7 +220,7 @@ public final class ModelTest {
                 same("untell(" + look + ")", bit(x.untell(look)), bit(m.untell(look)));
             }
             case 4 -> {
-                int by = r.nextInt(6) == 0 ? r.nextInt(1100) - 50 : r.nextInt(3);
+                int by = r.nextInt(6) == 0 ? near(1100) : r.nextInt(3);
                 told.append("later(" + by + ")\n");
                 same("later(" + by + ")", x.later(by), m.later(by));
             }
@@ -219,17 +230,17 @@ public final class ModelTest {
                 same("agrees(" + i + ", " + k + ")", x.agrees(i, k), m.agrees(i, k));
             }
             default -> {
-                int what = r.nextInt(5) - 1;
+                int what = near(3);
                 same("next(" + what + ", " + k + ")", x.next(what, k), m.next(what, k));
             }
         }
     }
 
     private void smallCall() {
-        int what = r.nextInt(16) - 2;
+        int what = near(12);
         same("about(" + what + ")", x.about(what), m.about(what));
         if (r.nextInt(6) == 0) {
-            int n = r.nextInt(60) - 2;
+            int n = near(60);
             same("end(" + n + ")", x.end(n), m.end(n));
             same("feed", x.feed(n, what, 7, 0, -1), m.feed(n, what, 7, 0, -1));
             x.end(0);
