@@ -153,21 +153,22 @@ public final class DyeLamps {
         return bits;
     }
 
+    /** Costs need no light, so the VAT has one without grounds too. */
     public int cost(int good) {
-        if (!canBe(good)) {
-            return NO_SUCH;
+        if (good == NONE) {
+            return bench.priceOf(vat.parts);
         }
-        return bench.priceOf(good == NONE ? vat.parts : bench.goods.rows[good]);
+        return bench.goods.has(good) ? bench.priceOf(bench.goods.rows[good]) : NO_SUCH;
     }
 
-    /** A VAT without a ground is no MIX, so it can't be looked at. */
-    private boolean canBe(int good) {
+    /** A VAT without a ground throws nothing back, so it can't be looked at. */
+    private boolean canBeLookedAt(int good) {
         return good == NONE ? bench.grounds.count > 0 : bench.goods.has(good);
     }
 
     /** What a GOOD (NONE: the VAT) throws back of all bands; null if it can't be. */
     private int[] rowOf(int good) {
-        if (!canBe(good)) {
+        if (!canBeLookedAt(good)) {
             return null;
         }
         if (good != NONE) {

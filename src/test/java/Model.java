@@ -392,6 +392,9 @@ final class Model {
     }
 
     int cost(int good) {
+        if (good == NONE) {
+            return price(vat.parts);
+        }
         return mix(good) == null ? -2 : price(mix(good).parts);
     }
 

@@ -286,6 +286,11 @@ public final class PromiseTest {
         due(7, "the vat without grounds", bare.seen(-1, 0, 0), -1);
         due(8, "the vat without grounds", bare.apart(-1, -1, 0, false), -1);
         due(9, "the vat without grounds", bare.alike(-1, -1, false), -1);
+        due(10, "the vat without grounds", bare.cost(-1), 0);
+        due(10, "the vat on a new bench", new DyeLamps().cost(-1), 0);
+        due(10, "no goods", bare.cost(0), -2);
+        due(10, "no goods", new DyeLamps().cost(0), -2);
+        due(10, "no goods", new DyeLamps().cost(-2), -2);
         due(19, "the vat without grounds", bare.betray(-1, -1, false), -1);
         due(21, "the vat without grounds", bare.lamp(-1, -1, false), -1);
         due(23, "no grounds", bare.drop(0, 1), -1);
