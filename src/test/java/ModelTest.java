@@ -251,10 +251,11 @@ public final class ModelTest {
         }
     }
 
+    /** As many calls as an object is used for. */
     private void go() {
         oneCall();
         bench(Texts.sound(r));
-        while (calls < 480) {
+        while (calls < 512) {
             int roll = r.nextInt(60);
             if (roll == 0) {
                 bench(Texts.sound(r));

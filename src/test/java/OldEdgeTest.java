@@ -52,6 +52,10 @@ public final class OldEdgeTest {
     }
 
     private static DyeLamps full() {
+        return Edge.on(fullText());
+    }
+
+    private static String fullText() {
         StringBuilder s = new StringBuilder("bands 1;");
         for (char c = 'a'; c < 'i'; c++) {
             s.append("dye ").append(c).append(" price 1 fast 1 of 9;");
@@ -60,7 +64,7 @@ public final class OldEdgeTest {
         for (char c = 'a'; c < 'i'; c++) {
             s.append("good ").append(c).append(" on g of 1 1 1 1 1 1 1 1;");
         }
-        return Edge.on(s.toString());
+        return s.toString();
     }
 
     private static void telling() {
@@ -91,6 +95,18 @@ public final class OldEdgeTest {
         Edge.due("give or take all", some.look(0, 0, 50, 9999), 1);
         Edge.due("-1", some.look(0, 0, 50, -1), -1);
         Edge.due("10000", some.look(0, 0, 50, 10000), -1);
+
+        // By lamp n: eye q and o see 2 and 6 times band 1, which is 45, 80, 60, 35 and 70 thousand; eye p sees nothing.
+        int[][] by = {{0, 0, 55, 0}, {0, 1, 80, 1}, {0, 2, 130, 1}, {0, 1, 60, 2}, {0, 3, 105, 3}, {1, 1, 140, 4}, {1, 3, 480, 1}, {1, 2, 90, 0}};
+        for (int[] b : by) {
+            DyeLamps one = Edge.on(BENCH);
+            one.look(b[0], b[1], b[2], 0);
+            Edge.due("by lamp " + b[0] + " and eye " + b[1], one.agree(0), 1);
+            Edge.due("by lamp " + b[0] + " and eye " + b[1], one.agrees(0, 0), b[3]);
+        }
+        DyeLamps dark = Edge.on(BENCH);
+        dark.look(1, 0, 0, 0);
+        Edge.due("by lamp 1 eye 0 sees nothing of any", dark.agree(0), 5);
 
         Edge.sentence("As known at k those count that were TOLD at k or before, not UNTOLD at k or before.");
         DyeLamps known = Edge.on(BENCH);
@@ -189,6 +205,21 @@ public final class OldEdgeTest {
         nexts("those that agree alone", told, 0, 1, 0, 1);
         nexts("as known before", told, -1, 0, 0, 2);
         nexts("72 that are seen as one", full(), 0, 0, 0, 72);
+        DyeLamps before = Edge.on(text + "lamp l of 0 1;lamp m of 1 0;eye e of 1 1;" + goods);
+        nexts("the second lamp", before, 0, 1, 0, 2);
+        Edge.sound(before, fullText());
+        nexts("72 that are seen as one, behind another answer", before, 0, 0, 0, 72);
+        // What was told in texts before is no lamp and no eye any more.
+        String parting = text + "lamp l of 0 0;lamp m of 1 0;eye d of 0 0;eye e of 1 0;" + goods;
+        DyeLamps lamps = Edge.on(parting);
+        Edge.sound(lamps, parting);
+        nexts("the second lamp, the second eye", lamps, 0, 1, 1, 2);
+        Edge.sound(lamps, text + "lamp l of 0 0;eye d of 0 0;eye e of 1 0;" + goods);
+        nexts("a lamp told before", lamps, 0, 0, 0, 4);
+        Edge.sound(lamps, parting);
+        Edge.sound(lamps, parting);
+        Edge.sound(lamps, text + "lamp l of 0 0;lamp m of 1 0;eye d of 0 0;" + goods);
+        nexts("an eye told before", lamps, 0, 0, 0, 4);
         // 10997 and 10428 are cut to one; by the second lamp 1571 and 20856 are not.
         DyeLamps cut = Edge.on("bands 2;most 7;dye a price 1 fast 1 of 11 0;dye b price 1 fast 1 of 0 73;ground g of 0 0;"
                 + "lamp l of 7 1;lamp m of 1 2;eye e of 1 1;good x on g of 1 0;good y on g of 0 1;");
@@ -262,6 +293,10 @@ public final class OldEdgeTest {
         cleared.end(0);
         Texts.bench(cleared, Edge.BUSY);
         Edge.due("a look told ahead of bench()", cleared.untell(1), false);
+        DyeLamps gone = Edge.on(BENCH);
+        gone.look(0, 0, 0, 0);
+        Edge.sound(gone, BENCH);
+        Edge.due("a look told ahead of bench()", gone.untell(0), false);
     }
 
     private static void later() {

@@ -74,6 +74,60 @@ public final class SearchEdgeTest {
         Edge.due("on the good's own ground", ground.nearest(1, false), 40000);
     }
 
+    /** Mixes of eight unlike dyes, and mixes that lie one over the other, are found as well. */
+    private static void widest() {
+        Edge.sentence("all MIXES on the ground that can be are asked");
+        String rows = "";
+        for (int i = 0; i < 8; i++) {
+            rows += "dye " + (char) ('a' + i) + " price 1 fast 0 of " + (1 << i) % 99 + ";";
+        }
+        DyeLamps x = asked("bands 1;alike 0;most 8;ground g of 0;lamp l of 1;eye e of 1;" + rows + "good x on g of 1 1 1 1 1 1 1 1;", 8, 8);
+        Edge.due("one part of each", x.match(1, false) <= 8 && x.nearest(1, false) == 0, true);
+        DyeLamps over = asked("over;bands 8;alike 0;most 8;ground g of" + " 99".repeat(8) + ";lamp l of" + " 1".repeat(8) + ";eye e of"
+                + " 1".repeat(8) + ";" + onlyBands() + "good x on g of 1 1 1 1 1 1 1 1;", 8, 8);
+        Edge.due("12870 mixes", over.mixes(), 12870);
+        Edge.due("each takes a band away: all eight are needed", over.match(1, false), 36);
+        Edge.parts("all eight", over, 1, 1, 1, 1, 1, 1, 1, 1);
+        Edge.due("all eight are nearest", over.nearest(1, false), 0);
+        Edge.parts("all eight", over, 1, 1, 1, 1, 1, 1, 1, 1);
+        Edge.due("all eight trick", over.trick(0, 0, false), 0);
+        Edge.parts("all eight", over, 1, 1, 1, 1, 1, 1, 1, 1);
+        over.ask(0, 0, 8, 7);
+        Edge.due("seven of them are not enough", over.match(1, false), -1);
+        int left = 99000;
+        for (int part = 0; part < 8; part++) {
+            left = left * 99 / 100;
+        }
+        Edge.due("one band is left under eight parts", over.nearest(1, false), left);
+        over.ask(0, 0, 1, 1);
+        Edge.due("of one part all dyes are best alike", over.best(1, false), 8);
+        for (int i = 0; i < 8; i++) {
+            Edge.due("the " + i + "-th", over.pick(i), 8 - i);
+            Edge.due("the " + i + "-th", over.parts(7 - i), 1);
+        }
+        DyeLamps steps = asked("over;bands 1;alike 0;most 3;ground g of 80;ground h of 20;lamp l of 1;eye e of 1;dye a price 5 fast 0 of 50;"
+                + "dye b price 1 fast 0 of 90;good x on h of 0 0;", 3, 2);
+        Edge.due("80, 40, 20", steps.match(1, false), 10);
+        Edge.parts("two parts of a", steps, 2, 0);
+        Edge.due("80, 40, 20", steps.best(1, false), 1);
+        Edge.due("80, 40, 20", steps.nearest(1, false), 0);
+        steps.ask(0, 0, 1, 2);
+        Edge.due("80, 40", steps.nearest(1, false), 20000);
+    }
+
+    /** Eight dyes over eight bands: each takes one band away and lets all others pass as it can. */
+    private static String onlyBands() {
+        StringBuilder s = new StringBuilder();
+        for (int i = 0; i < 8; i++) {
+            s.append("dye ").append((char) ('a' + i)).append(" price ").append(i + 1).append(" fast 0 of");
+            for (int band = 0; band < 8; band++) {
+                s.append(band == i ? " 0" : " 99");
+            }
+            s.append(';');
+        }
+        return s.toString();
+    }
+
     private static void spent() {
         Edge.sentence("SPENT if there are more than 100,000 (for BEST: 5,000).");
         DyeLamps x = asked(many(6), 20, 4);
@@ -180,6 +234,12 @@ public final class SearchEdgeTest {
                 + "dye b price 5 fast 0 of 4;good x on h of 0 0;", 1, 2);
         Edge.due("the last one beats all", last.best(1, false), 1);
         Edge.parts("the last one beats all", last, 1, 0);
+        // By their order 6000 6000, 9000 1000, 5000 5000, 10000 2000: the third beats the first, the second the last.
+        DyeLamps turns = asked("bands 2;most 1;ground g of 14 14;ground h of 20 20;lamp l of 1 0;lamp m of 0 1;eye e of 1 1;"
+                + "dye a price 1 fast 0 of 10 18;dye b price 2 fast 0 of 15 15;dye c price 3 fast 0 of 11 19;good x on h of 0 0 0;", 1, 3);
+        Edge.due("two are left", turns.best(3, false), 2);
+        Edge.due("the second", turns.pick(0), 3);
+        Edge.due("the third", turns.pick(1), 2);
         DyeLamps one = asked(BENCH, 0, 0);
         Edge.due("one mix alone is best", one.best(3, true), 1);
     }
@@ -356,6 +416,7 @@ public final class SearchEdgeTest {
 
     public static void main(String[] args) throws Exception {
         sets();
+        widest();
         spent();
         matching();
         nearing();

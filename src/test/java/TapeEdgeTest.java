@@ -118,6 +118,8 @@ public final class TapeEdgeTest {
         Texts.feed(x, Edge.BUSY);
         Edge.due("the same text again", x.bench(), 2);
         Edge.due("the tape is empty", x.about(8), 0);
+        Edge.parts("no mix lies there", x, -1, -1);
+        Edge.due("nothing is asked of", x.mixes(), -1);
         Edge.due("the vat's ground", x.about(11), 0);
         Edge.vat("the vat", x, 0, 0, -1);
         Edge.due("its days", x.about(10), 0);
@@ -128,10 +130,8 @@ public final class TapeEdgeTest {
         for (int box = 0; box < 3; box++) {
             Edge.due("box " + box, x.back(box), -1);
         }
-        Edge.due("nothing is asked of", x.mixes(), -1);
         Edge.due("nothing is asked of, match", x.match(1, false), -1);
         Edge.due("none is best", x.pick(0), -1);
-        Edge.parts("no mix lies there", x, -1, -1);
         Edge.due("no weights lie there", x.weight(0), -1);
         Edge.due("no weights lie there", x.weight(1), -1);
         Edge.due("w stays", x.about(9), w);

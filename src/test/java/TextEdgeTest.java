@@ -195,9 +195,10 @@ public final class TextEdgeTest {
         Edge.due("not told any more", still.about(9), 1);
     }
 
-    /** An object with one text on its bench behind another. */
+    /** An object with one text on its bench behind another, which was read twice (rooms may be used in turns). */
     private static DyeLamps again(String first, String second) {
         DyeLamps x = Edge.on(first);
+        Edge.sound(x, first);
         Edge.sound(x, second);
         return x;
     }
@@ -211,6 +212,8 @@ public final class TextEdgeTest {
         }
         Edge.isSound("bands 4;most 12;alike 10;over;slip 0;");
         Edge.isSound("slip 0;over;alike 10;most 12;bands 4;");
+        String part = "bands 1;most 2;dye a price 0 fast 0 of 50;ground g of 50;";
+        Edge.due("over not told any more", again("over;" + part, part + "good x on g of 1;").throwsBack(0, 0), 50000);
         DyeLamps x = again("bands 2;over;most 2;alike 2;slip 2;", "bands 3;over;most 3;alike 3;slip 3;");
         Edge.due("once in each text", x.about(0), 3);
     }
@@ -351,6 +354,22 @@ public final class TextEdgeTest {
         }
     }
 
+    /** Names that differ by one letter, at any place, or by their length alone, are unlike. */
+    private static void namesAreWhole() {
+        for (int length = 1; length <= 8; length++) {
+            for (int at = 0; at < length; at++) {
+                StringBuilder s = new StringBuilder(ONE);
+                for (char c : new char[] {'a', 'b', 'c', 'q', 'y', 'z'}) {
+                    s.append("lamp ").append("a".repeat(at)).append(c).append("z".repeat(length - at - 1)).append(" of 1;");
+                }
+                Edge.isSound(s.toString());
+            }
+        }
+        for (String pair : new String[] {"a aa", "z zz", "zzzzzzz zzzzzzzz", "ab ba", "aaaaaaa aaaaaaaa", "abcdefgh hgfedcba"}) {
+            Edge.isSound(ONE + "eye " + pair.split(" ")[0] + " of 1;eye " + pair.split(" ")[1] + " of 1;");
+        }
+    }
+
     private static void faults() {
         Edge.sentence("FAULTS, the first by its place (bytes from 0; the end: the text's length), at one place the least");
         Edge.hasFault("$", 1, 0);
@@ -389,7 +408,10 @@ public final class TextEdgeTest {
             Edge.isSound(ahead + sort + " qr" + tail + sort + " s" + tail);
         }
         Edge.hasFault(BEHIND + GOOD + "good x on", 3, BEHIND.length() + GOOD.length() + 5);
-        Edge.isSound(ONE + "dye q price 1 fast 1 of 1;ground q of 1;lamp q of 1;eye q of 1;good q on q of 1;");
+        String all = ONE + "dye q price 1 fast 1 of 1;ground q of 1;lamp q of 1;eye q of 1;good q on q of 1;";
+        Edge.isSound(all);
+        Edge.due("names of another text are not told in this one", again(all, all).about(5), 1);
+        namesAreWhole();
 
         Edge.sentence("4 a number that can't be (of parts: that by which they are more than most)");
         String three = ONE + DYE + "dye b price 1 fast 1 of 1;dye c price 1 fast 1 of 1;" + GROUND + "good x on g of ";
@@ -404,6 +426,9 @@ public final class TextEdgeTest {
             Edge.hasFault(others + name + " of 1;", 5, others.length());
         }
         Edge.isSound(others + "g of 1;");
+        DyeLamps x = again(ONE + DYE + "ground h of 1;", ONE);
+        Edge.due("a ground of another text", Texts.bench(x, BEHIND + "good x on h of 1;"), -1);
+        Edge.due("a ground of another text", x.fault(0), 5);
         Edge.hasFault(others + "7 of 1;", 2, others.length());
         Edge.hasFault(others + ";", 2, others.length());
     }

@@ -187,6 +187,16 @@ public final class VatEdgeTest {
             x.days(1000);
         }
         Edge.due("days go on", x.about(10), 402000);
+        StringBuilder dyes = new StringBuilder("bands 1;");
+        for (char c = 'a'; c < 'i'; c++) {
+            dyes.append("dye ").append(c).append(" price 0 fast 1 of 1;");
+        }
+        DyeLamps eight = Edge.on(dyes + "ground g of 1;");
+        for (int dye = 0; dye < 8; dye++) {
+            eight.drop(dye, 1);
+        }
+        Edge.due("eight dyes", eight.days(1), 8);
+        Edge.due("eight dyes", eight.days(1), 0);
         DyeLamps bare = Edge.on(NO_GROUNDS);
         Edge.due("no grounds", bare.days(5), 0);
         Edge.due("no grounds: days go on", bare.about(10), 5);
