@@ -16,6 +16,8 @@ public final class DyeLamps {
     private static final int MAX_PARTS = 24;
     private static final int MAX_OLDS = MAX_GOODS * (MAX_DYES + 1);
     private static final int MAX_LOOKS = 40;
+    private static final int MAX_MUCH = 9999999;
+    private static final int MAX_SOME = 9999;
     private static final int MAX_MIXES = 100000;
     private static final int MAX_BEST_MIXES = 5000;
     private static final int MAX_TIME = 100000;
@@ -355,7 +357,7 @@ public final class DyeLamps {
         if (!bench.lamps.has(lamp) || !bench.eyes.has(eye) || looks.isFull()) {
             return NONE;
         }
-        if (much < 0 || much > 9999999 || some < 0 || some > 9999) {
+        if (much < 0 || much > MAX_MUCH || some < 0 || some > MAX_SOME) {
             return NONE;
         }
         return looks.tell(lamp, eye, much, some, time);
@@ -1298,9 +1300,17 @@ public final class DyeLamps {
             return lamps > 0 && lamps < 1 << bench.lamps.count;
         }
 
-        private void start() {
+        /** 0: the walk stands at the first mix; else what is to be answered. No mix lies there from here on. */
+        private int start(boolean canBe, int limit) {
             lies = false;
+            if (!asked || !canBe) {
+                return NONE;
+            }
+            if (count > limit) {
+                return SPENT;
+            }
             walk.start(bench, ground, mostParts, mostKinds);
+            return 0;
         }
 
         private void keep() {
@@ -1316,14 +1326,10 @@ public final class DyeLamps {
         }
 
         int findMatch(int lamps, boolean odd) {
-            lies = false;
-            if (!asked || !hasLamps(lamps)) {
-                return NONE;
+            int refusal = start(hasLamps(lamps), MAX_MIXES);
+            if (refusal != 0) {
+                return refusal;
             }
-            if (count > MAX_MIXES) {
-                return SPENT;
-            }
-            start();
             for (int i = 0; i < count; i++) {
                 if (isPreferred() && isMatch(lamps, odd)) {
                     keep();
@@ -1344,14 +1350,10 @@ public final class DyeLamps {
         }
 
         long findNearest(int lamps, boolean odd) {
-            lies = false;
-            if (!asked || !hasLamps(lamps)) {
-                return NONE;
+            int refusal = start(hasLamps(lamps), MAX_MIXES);
+            if (refusal != 0) {
+                return refusal;
             }
-            if (count > MAX_MIXES) {
-                return SPENT;
-            }
-            start();
             long least = Long.MAX_VALUE;
             for (int i = 0; i < count; i++) {
                 long far = greatestApart(lamps, odd, least);
@@ -1377,14 +1379,10 @@ public final class DyeLamps {
         }
 
         long findTrick(int day, int night, boolean odd) {
-            lies = false;
-            if (!asked || !bench.lamps.has(day) || !bench.lamps.has(night)) {
-                return NONE;
+            int refusal = start(bench.lamps.has(day) && bench.lamps.has(night), MAX_MIXES);
+            if (refusal != 0) {
+                return refusal;
             }
-            if (count > MAX_MIXES) {
-                return SPENT;
-            }
-            start();
             long farthest = NONE;
             for (int i = 0; i < count; i++) {
                 int[] row = walk.thrownBack();
@@ -1401,15 +1399,11 @@ public final class DyeLamps {
         }
 
         int findBest(int lamps, boolean odd) {
-            lies = false;
             bests = 0;
-            if (!asked || !hasLamps(lamps)) {
-                return NONE;
+            int refusal = start(hasLamps(lamps), MAX_BEST_MIXES);
+            if (refusal != 0) {
+                return refusal;
             }
-            if (count > MAX_BEST_MIXES) {
-                return SPENT;
-            }
-            start();
             width = Integer.bitCount(lamps);
             for (int i = 0; i < count; i++) {
                 measure(lamps, odd);
